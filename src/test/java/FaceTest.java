@@ -44,8 +44,8 @@ public final class FaceTest {
         for (Field field : FlatLoader.class.getDeclaredFields()) {
             int modifiers = field.getModifiers();
             check.same(1, "private: " + field, Modifier.isPrivate(modifiers) ? 1 : 0);
-            check.same(1, "final if static: " + field,
-                    !Modifier.isStatic(modifiers) || Modifier.isFinal(modifiers) ? 1 : 0);
+            check.same(1, "a constant if static: " + field,
+                    !Modifier.isStatic(modifiers) || Modifier.isFinal(modifiers) && field.getType() == int.class ? 1 : 0);
         }
         Constructor<?>[] constructors = FlatLoader.class.getDeclaredConstructors();
         check.same(1, "constructors", constructors.length);
